@@ -78,9 +78,7 @@ public final class StaticKernel {
     private final Tokens tokens = new Tokens();
     private final Outline outline = new Outline(tokens);
     private final Faults faults = new Faults(outline);
-    private Plan plan = new Plan();
-    /** The next PLAN is filled here, so that the one in use stays when that fails. */
-    private Plan spare = new Plan();
+    private final Plan plan = new Plan();
     private final Machine machine = new Machine(plan);
 
     public StaticKernel() {
@@ -119,11 +117,8 @@ public final class StaticKernel {
         if (faults.kind != 0) {
             return NONE;
         }
-        spare.fill(outline);
-        Plan before = plan;
-        plan = spare;
-        spare = before;
-        machine.load(plan);
+        plan.fill(outline);
+        machine.forgetNotes();
         return 0;
     }
 
@@ -1007,7 +1002,7 @@ public final class StaticKernel {
 
         /** The first token of a ROLE in an ITEM, or NONE. */
         int find(int item, Role wanted) {
-            if (item < 0 || item >= items) {
+            if (item == NONE) {
                 return NONE;
             }
             for (int i = nameAt[item]; i < end[item]; i++) {
@@ -1019,7 +1014,7 @@ public final class StaticKernel {
         }
 
         boolean says(int item, Kind word) {
-            if (item < 0 || item >= items) {
+            if (item == NONE) {
                 return false;
             }
             for (int i = nameAt[item]; i < end[item]; i++) {
@@ -1266,7 +1261,7 @@ public final class StaticKernel {
             }
         }
 
-        /** Takes over an Outline without a FAULT. */
+        /** Takes over an Outline without a FAULT; the kernel is off, so that all things are at rest. */
         void fill(Outline outline) {
             for (int sort = 0; sort < SORTS; sort++) {
                 told[sort] = Math.min(outline.told[sort], MOST[sort]);
@@ -1279,7 +1274,6 @@ public final class StaticKernel {
             findGroups();
             findInternals();
             findCeilings();
-            rest();
         }
 
         private void fillThing(Outline outline, int item, int i) {
@@ -1651,7 +1645,7 @@ public final class StaticKernel {
 
     /** What is at work, and how that changes. */
     private static final class Machine {
-        private Plan plan;
+        private final Plan plan;
         final Rows rows = new Rows();
         boolean on;
         int mode = NONE;
@@ -1671,12 +1665,7 @@ public final class StaticKernel {
             this.plan = plan;
         }
 
-        void load(Plan next) {
-            plan = next;
-            forgetNotes();
-        }
-
-        private void forgetNotes() {
+        void forgetNotes() {
             noted = 0;
             unsettled = 0;
             doubleHad = 0;
@@ -1825,26 +1814,24 @@ public final class StaticKernel {
             }
             beginCalled();
             if (begunCount == 0 && isTopDue()) {
-                preempt();
                 runTop();
             }
         }
 
+        /** One is enough: the greatest begins, and of those left none is above that. */
         private void beginCalled() {
-            for (int n = 0; n < ISRS_MOST; n++) {
-                int i = nextCalled();
-                if (i == NONE) {
-                    return;
-                }
-                plan.isrs[i].called = false;
-                begun[begunCount] = i;
-                begunCount++;
-                keepNote(NOTE_BEGINS + i);
+            int i = greatestCalled();
+            if (i == NONE || begunCount >= ISRS_MOST) {
+                return;
             }
+            plan.isrs[i].called = false;
+            begun[begunCount] = i;
+            begunCount++;
+            keepNote(NOTE_BEGINS + i);
         }
 
-        /** The ISR that is to begin now; it is none that is begun, for those are not above. */
-        private int nextCalled() {
+        /** The ISR that is to begin; it is none that is begun, for those are not above. */
+        private int greatestCalled() {
             int greatest = plan.currentPriority(worker());
             int found = NONE;
             for (int i = 0; i < plan.told[ISRS]; i++) {
@@ -1854,7 +1841,7 @@ public final class StaticKernel {
                     found = i;
                 }
             }
-            return begunCount < ISRS_MOST ? found : NONE;
+            return found;
         }
 
         private boolean isTopDue() {
@@ -1865,16 +1852,12 @@ public final class StaticKernel {
             return !task.whole && rows.topRow() > plan.currentPriority(task);
         }
 
-        private void preempt() {
-            if (current == NONE) {
-                return;
-            }
-            rows.put(current, plan.currentPriority(plan.tasks[current]), true);
-            keepNote(NOTE_STOPS + current);
-            current = NONE;
-        }
-
+        /** The RUNNING task, if there is one, is PREEMPTED; the TOP, which lies above it, becomes RUNNING. */
         private void runTop() {
+            if (current != NONE) {
+                rows.put(current, plan.currentPriority(plan.tasks[current]), true);
+                keepNote(NOTE_STOPS + current);
+            }
             current = rows.takeTop();
             Worker task = plan.tasks[current];
             task.hasInternal = task.internal != NONE;
@@ -1929,7 +1912,6 @@ public final class StaticKernel {
             Worker task = plan.tasks[current];
             if (rows.topRow() > task.priority) {
                 task.hasInternal = false;
-                preempt();
                 runTop();
             }
         }

@@ -15,6 +15,7 @@ final class ControlTest {
         callStatuses();
         isrsByTheirPriority();
         isrsOfLikePriority();
+        sixteenIsrs();
         isrCalledAgainWhileBegun();
         isrAboveWholeTask();
         isrActivatesTasks();
@@ -272,6 +273,36 @@ final class ControlTest {
         Check.same("i", kernel.atWork(), 100);
         kernel.leave();
         Check.same("t", kernel.atWork(), 0);
+    }
+
+    private static void sixteenIsrs() {
+        StringBuilder plan = new StringBuilder("mode a task t priority 1 auto a ");
+        for (int i = 0; i < 16; i++) {
+            plan.append("isr i").append(i).append(" level ").append(i + 1).append(' ');
+        }
+        StaticKernel kernel = Check.started(plan.toString());
+        for (int i = 0; i < 16; i++) {
+            kernel.call(i);
+            Check.same("at work", kernel.atWork(), 100 + i);
+            kernel.call(i);
+        }
+        Check.same("begun", kernel.count(4), 16);
+        for (int i = 15; i >= 0; i--) {
+            kernel.leave();
+            Check.same("again", kernel.atWork(), 100 + i);
+            kernel.leave();
+        }
+        Check.same("t", kernel.atWork(), 0);
+        kernel.shut();
+        for (int i = 0; i < 16; i++) {
+            kernel.call(i);
+        }
+        kernel.open();
+        for (int i = 15; i >= 0; i--) {
+            Check.same("the greatest", kernel.atWork(), 100 + i);
+            Check.same("alone", kernel.count(4), 1);
+            kernel.leave();
+        }
     }
 
     private static void isrCalledAgainWhileBegun() {

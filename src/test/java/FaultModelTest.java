@@ -8,7 +8,7 @@ final class FaultModelTest {
     private static final String[] JUNK = {"!", "A", "_", "7x", "abcdefghijklm", "65536", ",", "5", "a", "mode", "in", "\t",
         "every", "task", "00000000000000012", "#x\n", "# ", "\n", "internal", "99999999999", "uses"};
 
-    private static long dice = 38L;
+    private static final Dice DICE = new Dice(38L);
     private static final int[] kinds = new int[7];
 
     public static void main(String[] args) {
@@ -24,15 +24,6 @@ final class FaultModelTest {
         Check.end("FaultModelTest");
     }
 
-    private static int roll(int sides) {
-        dice = dice * 6364136223846793005L + 1442695040888963407L;
-        return (int) ((dice >>> 33) % sides);
-    }
-
-    private static boolean chance(int percent) {
-        return roll(100) < percent;
-    }
-
     private static void compare(String text) {
         FaultModel due = new FaultModel(text);
         StaticKernel kernel = new StaticKernel();
@@ -46,31 +37,31 @@ final class FaultModelTest {
     /** Its NAMES are told in a way that the PLAN often holds: each for one SORT, with few slips. */
     private static String textByTheDice() {
         List<String> tokens = new ArrayList<>();
-        if (chance(8)) {
+        if (DICE.chance(8)) {
             addMany(tokens);
         }
-        int slips = chance(85) ? 0 : 6;
+        int slips = DICE.chance(85) ? 0 : 6;
         List<String> told = new ArrayList<>();
-        int items = 1 + roll(9);
+        int items = 1 + DICE.roll(9);
         for (int i = 0; i < items; i++) {
-            addItem(tokens, told, roll(7), slips);
+            addItem(tokens, told, DICE.roll(7), slips);
         }
         for (int n = 0; n < 14; n++) {
-            if (chance(97)) {
+            if (DICE.chance(97)) {
                 addItem(tokens, told, n % 7, slips);
             }
         }
-        if (chance(15)) {
-            tokens.add(roll(tokens.size() + 1), JUNK[roll(JUNK.length)]);
+        if (DICE.chance(15)) {
+            tokens.add(DICE.roll(tokens.size() + 1), JUNK[DICE.roll(JUNK.length)]);
         }
-        if (chance(6)) {
-            tokens.remove(roll(tokens.size()));
+        if (DICE.chance(6)) {
+            tokens.remove(DICE.roll(tokens.size()));
         }
         StringBuilder text = new StringBuilder();
         for (String token : tokens) {
-            text.append(token).append(token.equals(",") && chance(50) ? "" : chance(5) ? "\n" : " ");
+            text.append(token).append(token.equals(",") && DICE.chance(50) ? "" : DICE.chance(5) ? "\n" : " ");
         }
-        int length = chance(6) ? roll(text.length()) : text.length();
+        int length = DICE.chance(6) ? DICE.roll(text.length()) : text.length();
         return text.substring(0, Math.min(length, 3980));
     }
 
@@ -78,8 +69,8 @@ final class FaultModelTest {
         String[] sorts = {"mode", "event", "resource", "counter", "task", "isr", "alarm"};
         String[] ends = {"", "", "", " max 9 base 1 least 1", " priority 1", " level 1", " on c9 calls"};
         int[] most = {8, 32, 31, 16, 48, 16, 48};
-        int sort = roll(7);
-        int many = most[sort] - 1 + roll(3);
+        int sort = DICE.roll(7);
+        int many = most[sort] - 1 + DICE.roll(3);
         for (int i = 0; i < many; i++) {
             tokens.add(sorts[sort]);
             tokens.add("z" + i + ends[sort]);
@@ -91,14 +82,14 @@ final class FaultModelTest {
 
     /** NAMES of a SORT begin with its letter; few there are, so that they meet. */
     private static String nameOf(int sort, int slips) {
-        int kept = chance(slips) ? roll(7) : sort;
-        return "mercsia".charAt(kept) + "x" + roll(2);
+        int kept = DICE.chance(slips) ? DICE.roll(7) : sort;
+        return "mercsia".charAt(kept) + "x" + DICE.roll(2);
     }
 
     private static void addItem(List<String> tokens, List<String> told, int sort, int slips) {
         String name = nameOf(sort, slips);
-        for (int n = 0; n < 5 && told.contains(name) && !chance(3); n++) {
-            name = n < 4 ? nameOf(sort, slips) : NAMES[roll(NAMES.length)];
+        for (int n = 0; n < 5 && told.contains(name) && !DICE.chance(3); n++) {
+            name = n < 4 ? nameOf(sort, slips) : NAMES[DICE.roll(NAMES.length)];
         }
         told.add(name);
         String[] sorts = {"mode", "event", "resource", "counter", "task", "isr", "alarm"};
@@ -109,16 +100,16 @@ final class FaultModelTest {
                 addResourceEnd(tokens, slips);
                 break;
             case 3:
-                addNumber(tokens, "max", 5, chance(3) ? 0 : 3 + roll(20));
-                addNumber(tokens, "base", 3, chance(90) ? 1 + roll(1000) : roll(1200));
-                addNumber(tokens, "least", 3, 1 + roll(3));
+                addNumber(tokens, "max", 5, DICE.chance(3) ? 0 : 3 + DICE.roll(20));
+                addNumber(tokens, "base", 3, DICE.chance(90) ? 1 + DICE.roll(1000) : DICE.roll(1200));
+                addNumber(tokens, "least", 3, 1 + DICE.roll(3));
                 break;
             case 4:
                 addTaskEnd(tokens, slips);
                 break;
             case 5:
-                addNumber(tokens, "level", 3, 1 + roll(16));
-                if (chance(40)) {
+                addNumber(tokens, "level", 3, 1 + DICE.roll(16));
+                if (DICE.chance(40)) {
                     addNames(tokens, "uses", 2, slips);
                 }
                 break;
@@ -132,16 +123,16 @@ final class FaultModelTest {
 
     private static void addNumber(List<String> tokens, String word, int slips, int number) {
         tokens.add(word);
-        tokens.add(String.valueOf(chance(slips) ? roll(1100) : number));
+        tokens.add(String.valueOf(DICE.chance(slips) ? DICE.roll(1100) : number));
     }
 
     private static void addNames(List<String> tokens, String word, int sort, int slips) {
         tokens.add(word);
         List<String> ahead = new ArrayList<>();
-        int many = 1 + roll(3);
+        int many = 1 + DICE.roll(3);
         for (int i = 0; i < many; i++) {
             String name = nameOf(sort, slips);
-            if (ahead.contains(name) && !chance(10)) {
+            if (ahead.contains(name) && !DICE.chance(10)) {
                 continue;
             }
             if (!ahead.isEmpty()) {
@@ -153,21 +144,21 @@ final class FaultModelTest {
     }
 
     private static void addResourceEnd(List<String> tokens, int slips) {
-        if (chance(20)) {
+        if (DICE.chance(20)) {
             tokens.add("internal");
-        } else if (chance(35)) {
+        } else if (DICE.chance(35)) {
             tokens.add("as");
             tokens.add(nameOf(2, slips));
         }
     }
 
     private static void addTaskEnd(List<String> tokens, int slips) {
-        addNumber(tokens, "priority", 3, roll(64));
-        int parts = roll(4);
+        addNumber(tokens, "priority", 3, DICE.roll(64));
+        int parts = DICE.roll(4);
         List<Integer> had = new ArrayList<>();
         for (int i = 0; i < parts; i++) {
-            int part = roll(5);
-            if (had.contains(part) && !chance(10)) {
+            int part = DICE.roll(5);
+            if (had.contains(part) && !DICE.chance(10)) {
                 continue;
             }
             had.add(part);
@@ -176,7 +167,7 @@ final class FaultModelTest {
                     tokens.add("whole");
                     break;
                 case 1:
-                    addNumber(tokens, "limit", 3, chance(60) ? 1 : 1 + roll(8));
+                    addNumber(tokens, "limit", 3, DICE.chance(60) ? 1 : 1 + DICE.roll(8));
                     break;
                 case 2:
                     addNames(tokens, "auto", 0, slips);
@@ -194,7 +185,7 @@ final class FaultModelTest {
     private static void addAlarmEnd(List<String> tokens, int slips) {
         tokens.add("on");
         tokens.add(nameOf(3, slips));
-        int action = roll(4);
+        int action = DICE.roll(4);
         if (action == 0) {
             tokens.add("starts");
             tokens.add(nameOf(4, slips));
@@ -205,11 +196,11 @@ final class FaultModelTest {
         } else {
             tokens.add("calls");
         }
-        if (chance(50)) {
+        if (DICE.chance(50)) {
             addNames(tokens, "auto", 0, slips);
-            addNumber(tokens, "in", 3, 1 + roll(4));
-            if (chance(50)) {
-                addNumber(tokens, "every", 3, chance(20) ? 0 : 2 + roll(6));
+            addNumber(tokens, "in", 3, 1 + DICE.roll(4));
+            if (DICE.chance(50)) {
+                addNumber(tokens, "every", 3, DICE.chance(20) ? 0 : 2 + DICE.roll(6));
             }
         }
     }

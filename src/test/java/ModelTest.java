@@ -6,7 +6,7 @@ final class ModelTest {
     private static final int RUNS = 1500;
     private static final int CALLS = 120;
 
-    private static long dice = 20261116L;
+    private static final Dice DICE = new Dice(20261116L);
     private static Model model;
     private static StaticKernel kernel;
     private static final List<String> said = new ArrayList<>();
@@ -27,15 +27,6 @@ final class ModelTest {
         Check.end("ModelTest");
     }
 
-    private static int roll(int sides) {
-        dice = dice * 6364136223846793005L + 1442695040888963407L;
-        return (int) ((dice >>> 33) % sides);
-    }
-
-    private static boolean chance(int percent) {
-        return roll(100) < percent;
-    }
-
     private static void compare(String what, long got, long due) {
         if (got != due) {
             same = false;
@@ -48,20 +39,8 @@ final class ModelTest {
         same = true;
         model = new Model();
         kernel = new StaticKernel();
-        if (chance(30)) {
-            // a PLAN ahead of the one that counts, so that nothing of it may stay
-            String other = tellPlan();
-            kernel.build(Check.feed(kernel, other));
-            kernel.start(0);
-            kernel.call(0);
-            kernel.take(0);
-            kernel.tick(0, 7);
-            kernel.call(1);
-            kernel.halt(0);
-            model = new Model();
-            if (kernel.count(1) == 1) {
-                kernel = new StaticKernel();
-            }
+        if (DICE.chance(50)) {
+            useAnotherPlan();
         }
         String plan = tellPlan();
         said.add(plan);
@@ -73,16 +52,34 @@ final class ModelTest {
         return same;
     }
 
+    /** Nothing may stay of a PLAN ahead of the one that counts. */
+    private static void useAnotherPlan() {
+        kernel.build(Check.feed(kernel, tellPlan()));
+        for (int n = 0; n < 30; n++) {
+            oneCall();
+        }
+        said.clear();
+        same = true;
+        for (int i = 0; i < 4 && kernel.count(1) == 1; i++) {
+            kernel.call(i);
+            kernel.halt(0);
+        }
+        if (kernel.count(1) == 1) {
+            kernel = new StaticKernel();
+        }
+        model = new Model();
+    }
+
     // ---- a PLAN by the dice, told to the Model too
 
     private static String tellPlan() {
-        model.modes = 1 + roll(3);
-        int events = roll(5);
-        int resources = roll(6);
-        int counters = roll(3);
-        int tasks = 1 + roll(6);
-        int isrs = roll(4);
-        int priorities = chance(50) ? 4 : 64;
+        model.modes = 1 + DICE.roll(3);
+        int events = DICE.roll(5);
+        int resources = DICE.roll(6);
+        int counters = DICE.roll(3);
+        int tasks = 1 + DICE.roll(6);
+        int isrs = DICE.roll(4);
+        int priorities = DICE.chance(50) ? 4 : 64;
         List<List<String>> items = new ArrayList<>();
         for (int sort = 0; sort < 7; sort++) {
             items.add(new ArrayList<>());
@@ -96,7 +93,7 @@ final class ModelTest {
         model.resources.add(new Model.Resource());
         for (int i = 1; i <= resources; i++) {
             model.resources.add(new Model.Resource());
-            model.resources.get(i).internal = chance(30);
+            model.resources.get(i).internal = DICE.chance(30);
         }
         for (int i = 1; i <= resources; i++) {
             items.get(2).add(tellResource(i));
@@ -110,7 +107,7 @@ final class ModelTest {
         for (int i = 0; i < isrs; i++) {
             items.get(5).add(tellIsr(i));
         }
-        for (int i = 0; i < (counters == 0 ? 0 : roll(5)); i++) {
+        for (int i = 0; i < (counters == 0 ? 0 : DICE.roll(5)); i++) {
             items.get(6).add(tellAlarm(i));
         }
         model.complete();
@@ -125,9 +122,9 @@ final class ModelTest {
             left += sort.size();
         }
         while (left > 0) {
-            List<String> sort = items.get(roll(items.size()));
+            List<String> sort = items.get(DICE.roll(items.size()));
             if (!sort.isEmpty()) {
-                text.append(sort.remove(0)).append(chance(10) ? "# note\n" : " ");
+                text.append(sort.remove(0)).append(DICE.chance(10) ? "# note\n" : " ");
                 left--;
             }
         }
@@ -142,7 +139,7 @@ final class ModelTest {
         // by as from an odd one to an even one, or from a greater one to a less one of like oddness
         for (int other = 1; other < model.resources.size(); other++) {
             boolean goesOn = i % 2 == other % 2 ? other < i : i % 2 == 1;
-            if (goesOn && !model.resources.get(other).internal && chance(25)) {
+            if (goesOn && !model.resources.get(other).internal && DICE.chance(25)) {
                 resource.as = other;
                 return "resource r" + i + " as r" + other;
             }
@@ -152,9 +149,9 @@ final class ModelTest {
 
     private static String tellCounter(int i) {
         Model.Counter counter = new Model.Counter();
-        counter.max = 1 + roll(9);
-        counter.base = 1 + roll(3);
-        counter.least = 1 + roll(Math.min(3, counter.max));
+        counter.max = 1 + DICE.roll(9);
+        counter.base = 1 + DICE.roll(3);
+        counter.least = 1 + DICE.roll(Math.min(3, counter.max));
         model.counters.add(counter);
         return "counter c" + i + " max " + counter.max + " base " + counter.base + " least " + counter.least;
     }
@@ -162,30 +159,30 @@ final class ModelTest {
     private static String tellTask(int i, int events, int priorities) {
         Model.Task task = new Model.Task();
         model.tasks.add(task);
-        task.priority = roll(priorities);
+        task.priority = DICE.roll(priorities);
         List<String> parts = new ArrayList<>();
-        if (chance(20)) {
+        if (DICE.chance(20)) {
             task.whole = true;
             parts.add("whole");
         }
         StringBuilder waits = new StringBuilder();
         for (int e = 0; e < events; e++) {
-            if (chance(30)) {
+            if (DICE.chance(30)) {
                 task.events |= 1 << e;
                 waits.append(waits.length() == 0 ? "waits e" : ", e").append(e);
             }
         }
         parts.add(waits.toString());
-        if (task.events == 0 && chance(50)) {
-            task.limit = 1 + roll(4);
+        if (task.events == 0 && DICE.chance(50)) {
+            task.limit = 1 + DICE.roll(4);
             parts.add("limit " + task.limit);
         }
-        task.modes = roll(1 << model.modes);
+        task.modes = DICE.roll(1 << model.modes);
         parts.add(listed("auto m", task.modes));
         parts.add(listed("uses r", usesByTheDice(task.uses, true)));
         StringBuilder text = new StringBuilder("task t" + i + " priority " + task.priority);
         while (!parts.isEmpty()) {
-            text.append(' ').append(parts.remove(roll(parts.size())));
+            text.append(' ').append(parts.remove(DICE.roll(parts.size())));
         }
         return text.toString();
     }
@@ -195,7 +192,7 @@ final class ModelTest {
         boolean hasInternal = !internalToo;
         for (int r = 1; r < model.resources.size(); r++) {
             boolean internal = model.resources.get(r).internal;
-            if (chance(40) && !(internal && hasInternal)) {
+            if (DICE.chance(40) && !(internal && hasInternal)) {
                 hasInternal |= internal;
                 uses.add(r);
                 bits |= 1 << r;
@@ -218,7 +215,7 @@ final class ModelTest {
     private static String tellIsr(int i) {
         Model.Isr isr = new Model.Isr();
         model.isrs.add(isr);
-        int level = 1 + roll(3);
+        int level = 1 + DICE.roll(3);
         isr.priority = 63 + level;
         return "isr i" + i + " level " + level + " " + listed("uses r", usesByTheDice(isr.uses, false));
     }
@@ -226,23 +223,23 @@ final class ModelTest {
     private static String tellAlarm(int i) {
         Model.Alarm alarm = new Model.Alarm();
         model.alarms.add(alarm);
-        alarm.counter = roll(model.counters.size());
+        alarm.counter = DICE.roll(model.counters.size());
         StringBuilder text = new StringBuilder("alarm a" + i + " on c" + alarm.counter);
-        int t = roll(model.tasks.size());
+        int t = DICE.roll(model.tasks.size());
         int events = model.tasks.get(t).events;
-        if (events != 0 && chance(70)) {
+        if (events != 0 && DICE.chance(70)) {
             alarm.task = t;
             do {
-                alarm.event = roll(5);
+                alarm.event = DICE.roll(5);
             } while ((events >> alarm.event & 1) == 0);
             text.append(" sets t").append(t).append(" e").append(alarm.event);
-        } else if (chance(80)) {
+        } else if (DICE.chance(80)) {
             alarm.task = t;
             text.append(" starts t").append(t);
         } else {
             text.append(" calls");
         }
-        if (chance(60)) {
+        if (DICE.chance(60)) {
             tellAuto(alarm, text);
         }
         return text.toString();
@@ -250,11 +247,11 @@ final class ModelTest {
 
     private static void tellAuto(Model.Alarm alarm, StringBuilder text) {
         Model.Counter counter = model.counters.get(alarm.counter);
-        alarm.modes = 1 + roll((1 << model.modes) - 1);
-        alarm.in = 1 + roll(counter.max);
+        alarm.modes = 1 + DICE.roll((1 << model.modes) - 1);
+        alarm.in = 1 + DICE.roll(counter.max);
         text.append(' ').append(listed("auto m", alarm.modes)).append(" in ").append(alarm.in);
-        if (chance(70)) {
-            alarm.autoEvery = chance(20) ? 0 : counter.least + roll(counter.max - counter.least + 1);
+        if (DICE.chance(70)) {
+            alarm.autoEvery = DICE.chance(20) ? 0 : counter.least + DICE.roll(counter.max - counter.least + 1);
             text.append(" every ").append(alarm.autoEvery);
         }
     }
@@ -263,7 +260,7 @@ final class ModelTest {
 
     /** Mostly the number of a thing, sometimes one just beside. */
     private static int pick(int many) {
-        return chance(94) && many > 0 ? roll(many) : roll(many + 2) - 1;
+        return DICE.chance(94) && many > 0 ? DICE.roll(many) : DICE.roll(many + 2) - 1;
     }
 
     private static void answered(String call, long got, long due) {
@@ -277,10 +274,10 @@ final class ModelTest {
             answered("start(" + mode + ")", kernel.start(mode), model.start(mode));
             return;
         }
-        int which = roll(100);
+        int which = DICE.roll(100);
         if (which < 14) {
             int c = pick(model.counters.size());
-            int n = chance(85) ? 1 + roll(4) : chance(50) ? roll(1003) : roll(30);
+            int n = DICE.chance(85) ? 1 + DICE.roll(4) : DICE.chance(50) ? DICE.roll(1003) : DICE.roll(30);
             answered("tick(" + c + ", " + n + ")", kernel.tick(c, n), model.tick(c, n));
         } else if (which < 22) {
             int i = pick(model.isrs.size());
@@ -296,23 +293,23 @@ final class ModelTest {
     private static void oneService() {
         int[] often = {1, 1, 1, 1, 2, 2, 3, 3, 4, 4, 5, 5, 5, 6, 6, 6, 7, 7, 7, 8, 9, 9, 10, 11, 11, 12, 12, 13, 14, 15, 16,
             16, 16, 17, 17, 17};
-        int number = chance(1) ? 18 : often[roll(often.length)];
+        int number = DICE.chance(1) ? 18 : often[DICE.roll(often.length)];
         int x = 0;
         int y = 0;
         int z = 0;
         if (number == 1 || number == 3 || number == 7 || number == 10) {
             x = pick(model.tasks.size());
-            y = chance(80) ? roll(32) : (int) dice;
+            y = DICE.chance(80) ? DICE.roll(32) : DICE.bits();
         } else if (number == 5) {
             x = pick(model.resources.size());
         } else if (number == 6) {
             x = lastTakenOrAny();
         } else if (number == 8 || number == 9 || number == 18) {
-            x = chance(80) ? roll(32) : (int) dice;
+            x = DICE.chance(80) ? DICE.roll(32) : DICE.bits();
         } else if (number >= 11 && number <= 14) {
             x = pick(model.alarms.size());
-            y = roll(12) - 1;
-            z = chance(40) ? 0 : roll(12) - 1;
+            y = DICE.roll(12) - 1;
+            z = DICE.chance(40) ? 0 : DICE.roll(12) - 1;
         }
         long due = model.service(number, x, y, z);
         answered("service " + number + "(" + x + ", " + y + ", " + z + ")", serve(number, x, y, z), due);
@@ -325,7 +322,7 @@ final class ModelTest {
         } else if (model.running != null) {
             taken = model.running.taken;
         }
-        return taken.isEmpty() || chance(15) ? pick(model.resources.size()) : taken.get(taken.size() - 1);
+        return taken.isEmpty() || DICE.chance(15) ? pick(model.resources.size()) : taken.get(taken.size() - 1);
     }
 
     private static long serve(int number, int x, int y, int z) {

@@ -7,6 +7,7 @@ final class PlanTest {
         feedKeepsTheOrderOfBytes();
         feedRefusesMoreThanTheTapeHolds();
         buildTakesTheFirstBytes();
+        textsThatFillTheTape();
         buildRefusesWithoutDoingAnything();
         buildWithFaultKeepsThePlanOfBefore();
         buildForgetsNotesAndValues();
@@ -80,6 +81,29 @@ final class PlanTest {
         Check.feed(kernel, "mode ab");
         Check.same("a token cut by the end", kernel.build(6), 0);
         Check.same("its name", kernel.name(0, 0, 0), 0x6100000000000000L);
+        Check.feed(kernel, "task t priority 123x");
+        Check.same("a number cut by the end", kernel.build(18), 0);
+        Check.same("its value", kernel.task(0, 4), 12);
+        Check.feed(kernel, "mode a # b\n!");
+        Check.same("a note cut by the end", kernel.build(9), 0);
+    }
+
+    private static void textsThatFillTheTape() {
+        String blanks = " ".repeat(3000);
+        StaticKernel kernel = new StaticKernel();
+        String[] ends = {"task t priority 12", "mode abcdefghijkl", "mode a # note", "mode a #", "mode a\n", "mode m"};
+        for (String end : ends) {
+            String text = blanks + " ".repeat(1000 - end.length()) + end;
+            Check.same("length", Check.feed(kernel, text), 4000);
+            Check.same(end, kernel.build(4000), 0);
+        }
+        String[] faults = {"mode a ,", "mode", "mode a task t priority 65536", "mode abcdefghijklm"};
+        int[] places = {3999, 4000, 3995, 3987};
+        for (int i = 0; i < faults.length; i++) {
+            Check.feed(kernel, blanks + " ".repeat(1000 - faults[i].length()) + faults[i]);
+            Check.same(faults[i], kernel.build(4000), NONE);
+            Check.same(faults[i] + " place", kernel.fault(1), places[i]);
+        }
     }
 
     private static void buildRefusesWithoutDoingAnything() {
