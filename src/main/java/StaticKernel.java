@@ -153,7 +153,7 @@ public final class StaticKernel {
         }
     }
 
-    // ---- the services
+    // ---- start, and the services: the number that finish() gets is the service's, for the NOTES
 
     public int start(int mode) {
         int status = tryStart(mode);
@@ -1864,7 +1864,7 @@ public final class StaticKernel {
             keepNote(NOTE_RUNS + current);
         }
 
-        /** Counts what the document says is never so. */
+        /** Counts what the document says is never so; a call that changes nothing of it may ask at its begin. */
         void audit() {
             if (shutDepth > 0 || begunCount > 0) {
                 return;
