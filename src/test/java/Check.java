@@ -68,18 +68,22 @@ final class Check {
         return word;
     }
 
+    private static String shown(String text) {
+        return text.length() > 300 ? text.substring(0, 300) + " .." : text;
+    }
+
     /** A kernel, off, with the PLAN that a text tells. */
     static StaticKernel built(String text) {
         StaticKernel kernel = new StaticKernel();
         int length = feed(kernel, text);
-        same("build of " + text, kernel.build(length), 0);
+        same("build of " + shown(text), kernel.build(length), 0);
         return kernel;
     }
 
     /** A kernel, on, in mode 0. */
     static StaticKernel started(String text) {
         StaticKernel kernel = built(text);
-        same("start of " + text, kernel.start(0), 0);
+        same("start of " + shown(text), kernel.start(0), 0);
         return kernel;
     }
 
