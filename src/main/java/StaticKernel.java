@@ -1812,25 +1812,20 @@ public final class StaticKernel {
             if (!on || shutDepth > 0) {
                 return;
             }
-            beginCalled();
+            // One ISR is enough: of those left none is above the greatest.
+            int i = greatestCalled();
+            if (i != NONE && begunCount < ISRS_MOST) {
+                plan.isrs[i].called = false;
+                begun[begunCount] = i;
+                begunCount++;
+                keepNote(NOTE_BEGINS + i);
+            }
             if (begunCount == 0 && isTopDue()) {
                 runTop();
             }
         }
 
-        /** One is enough: the greatest begins, and of those left none is above that. */
-        private void beginCalled() {
-            int i = greatestCalled();
-            if (i == NONE || begunCount >= ISRS_MOST) {
-                return;
-            }
-            plan.isrs[i].called = false;
-            begun[begunCount] = i;
-            begunCount++;
-            keepNote(NOTE_BEGINS + i);
-        }
-
-        /** The ISR that is to begin; it is none that is begun, for those are not above. */
+        /** The CALLED ISR that is to begin, or NONE; it is never one that is begun: those are not above. */
         private int greatestCalled() {
             int greatest = plan.currentPriority(worker());
             int found = NONE;
