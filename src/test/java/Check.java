@@ -5,6 +5,8 @@ import java.util.NoSuchElementException;
 final class Check {
     private static int passed = 0;
     private static int failed = 0;
+    /** What the checks are about, told ahead of each that is not as due. */
+    private static String about = "";
 
     private Check() {
     }
@@ -14,12 +16,33 @@ final class Check {
         void run();
     }
 
+    static void about(String sentence) {
+        about = sentence.isEmpty() ? "" : sentence + " | ";
+    }
+
+    /** How many checks there were, as due or not. */
+    static int made() {
+        return passed + failed;
+    }
+
+    static void wrong(String what) {
+        failed++;
+        System.out.println(about + what);
+    }
+
     static void same(String what, long got, long due) {
         if (got == due) {
             passed++;
         } else {
-            failed++;
-            System.out.println(what + ": answered " + got + ", due is " + due);
+            wrong(what + ": answered " + got + ", due is " + due);
+        }
+    }
+
+    static void same(String what, String got, String due) {
+        if (got.equals(due)) {
+            passed++;
+        } else {
+            wrong(what + ": it is\n" + got + "due is\n" + due);
         }
     }
 
@@ -39,8 +62,7 @@ final class Check {
         if (got.equals("NoSuchElementException")) {
             passed++;
         } else {
-            failed++;
-            System.out.println(what + ": threw " + got + ", due is NoSuchElementException");
+            wrong(what + ": threw " + got + ", due is NoSuchElementException");
         }
     }
 
@@ -85,6 +107,31 @@ final class Check {
         StaticKernel kernel = built(text);
         same("start of " + shown(text), kernel.start(0), 0);
         return kernel;
+    }
+
+    /** A text with one ^ ahead of the byte at which a FAULT of a kind is due; kind 0, and no ^: without one. */
+    static void fault(int kind, String marked) {
+        int place = marked.indexOf('^');
+        faultAt(kind, place, place < 0 ? marked : marked.substring(0, place) + marked.substring(place + 1));
+    }
+
+    static void faultAt(int kind, int place, String text) {
+        StaticKernel kernel = new StaticKernel();
+        int length = feed(kernel, text);
+        String shown = text.length() > 200 ? ".. " + text.substring(text.length() - 200) : text;
+        same(shown + " | build", kernel.build(length), kind == 0 ? 0 : -1);
+        same(shown + " | kind", kernel.fault(0), kind);
+        same(shown + " | place", kernel.fault(1), place);
+    }
+
+    /** So many ITEMS, each with a NAME of its own. */
+    static String items(int many, String word, String end) {
+        StringBuilder text = new StringBuilder();
+        for (int i = 0; i < many; i++) {
+            text.append(word).append(' ').append((char) ('a' + i / 26)).append((char) ('a' + i % 26)).append('z')
+                    .append(end).append(' ');
+        }
+        return text.toString();
     }
 
     /** All NOTES that are kept since start(), the first one first. */

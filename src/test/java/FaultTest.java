@@ -21,16 +21,8 @@ final class FaultTest {
         Check.end("FaultTest");
     }
 
-    /** The text has one ^ ahead of the byte at which the FAULT is due; none: no FAULT. */
     private static void due(int kind, String marked) {
-        int place = marked.indexOf('^');
-        String text = marked.replace("^", "");
-        StaticKernel kernel = new StaticKernel();
-        int length = Check.feed(kernel, text);
-        String shown = text.length() > 200 ? text.substring(text.length() - 200) : text;
-        Check.same(shown + " | build", kernel.build(length), kind == 0 ? 0 : -1);
-        Check.same(shown + " | kind", kernel.fault(0), kind);
-        Check.same(shown + " | place", kernel.fault(1), place);
+        Check.fault(kind, marked);
     }
 
     private static void tokensThatAreNone() {
@@ -254,37 +246,28 @@ final class FaultTest {
         due(0, COUNTER + "event e event f task t priority 1 waits f,e alarm a on c sets t e");
     }
 
-    private static String many(int how, String before, String after) {
-        StringBuilder text = new StringBuilder();
-        for (int i = 0; i < how; i++) {
-            text.append(before).append(' ').append((char) ('a' + i / 26)).append((char) ('a' + i % 26)).append('z')
-                    .append(after).append(' ');
-        }
-        return text.toString();
-    }
-
     private static void full() {
-        due(6, many(8, "mode", "") + "mode ^nine");
-        due(6, many(32, "event", "") + "event ^more");
-        due(6, many(31, "resource", "") + "resource ^more internal");
-        due(6, many(16, "counter", " max 1 base 1 least 1") + "counter ^more max 0 base 0 least 0");
-        due(6, many(48, "task", " priority 1") + "task ^more priority 99");
-        due(6, many(16, "isr", " level 1") + "isr ^more level 99");
-        due(6, COUNTER + many(48, "alarm", " on c calls") + "alarm ^more on x calls");
-        due(2, many(8, "mode", "") + "mode ^aaz");
-        due(6, many(8, "mode", "") + "mode ^nine mode nine");
-        due(3, "task t priority 1 auto ^nought " + many(8, "mode", "") + "mode nine");
-        due(6, "task t priority 1 auto nine " + many(8, "mode", "") + "mode ^nine");
+        due(6, Check.items(8, "mode", "") + "mode ^nine");
+        due(6, Check.items(32, "event", "") + "event ^more");
+        due(6, Check.items(31, "resource", "") + "resource ^more internal");
+        due(6, Check.items(16, "counter", " max 1 base 1 least 1") + "counter ^more max 0 base 0 least 0");
+        due(6, Check.items(48, "task", " priority 1") + "task ^more priority 99");
+        due(6, Check.items(16, "isr", " level 1") + "isr ^more level 99");
+        due(6, COUNTER + Check.items(48, "alarm", " on c calls") + "alarm ^more on x calls");
+        due(2, Check.items(8, "mode", "") + "mode ^aaz");
+        due(6, Check.items(8, "mode", "") + "mode ^nine mode nine");
+        due(3, "task t priority 1 auto ^nought " + Check.items(8, "mode", "") + "mode nine");
+        due(6, "task t priority 1 auto nine " + Check.items(8, "mode", "") + "mode ^nine");
     }
 
     private static void fullHolds() {
-        due(0, many(8, "mode", ""));
-        due(0, many(32, "event", ""));
-        due(0, many(31, "resource", ""));
-        due(0, many(16, "counter", " max 1 base 1 least 1"));
-        due(0, many(48, "task", " priority 1"));
-        due(0, many(16, "isr", " level 1"));
-        due(0, COUNTER + many(48, "alarm", " on c calls"));
+        due(0, Check.items(8, "mode", ""));
+        due(0, Check.items(32, "event", ""));
+        due(0, Check.items(31, "resource", ""));
+        due(0, Check.items(16, "counter", " max 1 base 1 least 1"));
+        due(0, Check.items(48, "task", " priority 1"));
+        due(0, Check.items(16, "isr", " level 1"));
+        due(0, COUNTER + Check.items(48, "alarm", " on c calls"));
     }
 
     private static void firstAlongTheText() {
