@@ -3,7 +3,8 @@ final class EdgesOfAlarms {
     private static final int NONE = StaticKernel.NONE;
     private static final int MOST = Integer.MAX_VALUE;
     private static final int LEAST = Integer.MIN_VALUE;
-    private static final String PLAN = "mode a counter b max 65535 base 1 least 65535 counter c max 9 base 1 least 3 task t priority 1 auto a"
+    private static final String PLAN = "mode a counter b max 65535 base 1 least 65535 counter c max 9 base 1 least 3"
+            + " task t priority 1 auto a"
             + " alarm w on b calls alarm x on c calls alarm y on c calls ";
 
     private EdgesOfAlarms() {
@@ -170,7 +171,8 @@ final class EdgesOfAlarms {
             Check.same("the last step", kernel.left(2), 1);
         });
         Edge.of("section 4", "in how many steps of VALUE it is met", () -> {
-            StaticKernel kernel = Check.started("mode a counter c max 9 base 4 least 1 task t priority 1 auto a alarm x on c calls");
+            StaticKernel kernel = Check.started("mode a counter c max 9 base 4 least 1 task t priority 1 auto a alarm"
+                    + " x on c calls");
             kernel.after(0, 2, 0);
             kernel.tick(0, 3);
             Check.same("no step yet", kernel.left(0), 2);

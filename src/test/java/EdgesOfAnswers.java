@@ -100,7 +100,8 @@ final class EdgesOfAnswers {
     }
 
     private static void taskRequests() {
-        Edge.of("promise 30", "2 the CURRENT PRIORITY of its REQUEST that is RUNNING, WAITING or first in the ROWS (the highest ROW first; its PRIORITY, if it is SUSPENDED)", () -> {
+        Edge.of("promise 30", "2 the CURRENT PRIORITY of its REQUEST that is RUNNING, WAITING or first in the ROWS"
+                + " (the highest ROW first; its PRIORITY, if it is SUSPENDED)", () -> {
             StaticKernel kernel = Check.started(TASKS);
             Check.same("running, with its internal one", kernel.task(0, 2), 9);
             kernel.activate(0);
@@ -153,7 +154,8 @@ final class EdgesOfAnswers {
     }
 
     private static void bits() {
-        String plan = "mode a " + Check.items(32, "event", "") + "task t priority 1 auto a waits aaz,bfz task u priority 0 task v priority 0 waits abz";
+        String plan = "mode a " + Check.items(32, "event", "") + "task t priority 1 auto a waits aaz,bfz task u"
+                + " priority 0 task v priority 0 waits abz";
         Edge.of("promise 31", "the bits of its EVENTS (what 0), of those that are SET (1), that it is WAITING for (2)", () -> {
             StaticKernel kernel = Check.started(plan);
             Check.same("events 0 and 31", kernel.bits(0, 0), 0x80000001L);
@@ -184,7 +186,8 @@ final class EdgesOfAnswers {
 
     private static void resourceHad() {
         Edge.of("promise 32", "1 who has it (a task, 100 + an ISR; NONE: nobody", () -> {
-            StaticKernel kernel = Check.started("mode a resource r task s priority 0 task t priority 1 auto a uses r isr h level 1 isr i level 1 uses r");
+            StaticKernel kernel = Check.started("mode a resource r task s priority 0 task t priority 1 auto a uses r"
+                    + " isr h level 1 isr i level 1 uses r");
             Check.same("nobody", kernel.resource(1, 1), NONE);
             kernel.take(1);
             Check.same("task 1", kernel.resource(1, 1), 1);
@@ -197,7 +200,8 @@ final class EdgesOfAnswers {
         });
         // Several never have one: whoever has it lies in a ROW not below any that uses it, and ahead of these.
         Edge.of("promise 32", "of an internal one that several have, the least)", () -> {
-            StaticKernel kernel = Check.started("mode a resource q internal task s priority 9 uses q task t priority 1 auto a uses q limit 2"
+            StaticKernel kernel = Check.started("mode a resource q internal task s priority 9 uses q task t priority 1"
+                    + " auto a uses q limit 2"
                     + " task u priority 12 task v priority 9 uses q");
             Check.same("t", kernel.resource(1, 1), 1);
             kernel.activate(0);
@@ -327,8 +331,10 @@ final class EdgesOfAnswers {
     }
 
     private static void alarm() {
-        String plan = "mode a event e event f counter b max 9 base 1 least 1 counter c max 65535 base 1 least 1 task t priority 1 auto a"
-                + " task u priority 1 waits f alarm x on c sets u f auto a in 65535 every 1 alarm y on b starts t alarm z on b calls auto a in 1";
+        String plan = "mode a event e event f counter b max 9 base 1 least 1 counter c max 65535 base 1 least 1 task t"
+                + " priority 1 auto a"
+                + " task u priority 1 waits f alarm x on c sets u f auto a in 65535 every 1 alarm y on b starts t"
+                        + " alarm z on b calls auto a in 1";
         Edge.of("promise 35", "0 in how many steps it is met (NONE: not in use), 1 its EVERY (NONE likewise)", () -> {
             StaticKernel kernel = Check.built(plan);
             Check.same("off", kernel.alarm(0, 0), NONE);
@@ -371,7 +377,8 @@ final class EdgesOfAnswers {
 
     private static void row() {
         Edge.of("promise 36", "The task of the i-th REQUEST (from 0) of ROW p; NONE if there is none such.", () -> {
-            StaticKernel kernel = Check.started("mode a task s priority 63 whole auto a task t priority 0 limit 8 task u priority 0 task v priority 63");
+            StaticKernel kernel = Check.started("mode a task s priority 63 whole auto a task t priority 0 limit 8 task"
+                    + " u priority 0 task v priority 63");
             for (int t : new int[] {1, 2, 1, 3}) {
                 kernel.activate(t);
             }
@@ -402,7 +409,8 @@ final class EdgesOfAnswers {
     }
 
     private static void note() {
-        Edge.of("promise 37", "The k-th of the latest NOTES, the latest one 0. NoSuchElementException: none such is kept.", () -> {
+        Edge.of("promise 37", "The k-th of the latest NOTES, the latest one 0. NoSuchElementException: none such is"
+                + " kept.", () -> {
             StaticKernel kernel = Check.built("mode a task t priority 1 auto a");
             Check.missing("none at first", () -> kernel.note(0));
             kernel.start(0);
@@ -422,8 +430,10 @@ final class EdgesOfAnswers {
     // ---- promise 38
 
     private static void counts() {
-        String plan = "mode a mode b event e task t priority 9 auto b waits e task u priority 1 auto b limit 3 isr i level 1 isr j level 2";
-        Edge.of("promise 38", "0 bytes on the TAPE, 1 whether the kernel is on (1, 0), 2 its mode (NONE: off), 3 SHUT, 4 how many ISRs are begun, 5 all REQUESTS", () -> {
+        String plan = "mode a mode b event e task t priority 9 auto b waits e task u priority 1 auto b limit 3 isr i"
+                + " level 1 isr j level 2";
+        Edge.of("promise 38", "0 bytes on the TAPE, 1 whether the kernel is on (1, 0), 2 its mode (NONE: off), 3 SHUT,"
+                + " 4 how many ISRs are begun, 5 all REQUESTS", () -> {
             StaticKernel kernel = Check.built(plan);
             counted(kernel, 0, 0, NONE, 0, 0, 0);
             kernel.feed(0, 0, 0, 0, 0);
@@ -459,7 +469,8 @@ final class EdgesOfAnswers {
 
     private static void countsOfNotes() {
         Edge.of("promise 38", "6 NOTES since start() (those not kept, too)", () -> {
-            StaticKernel kernel = Check.built("mode a counter c max 9 base 1 least 1 task t priority 1 auto a alarm x on c calls auto a in 1 every 1");
+            StaticKernel kernel = Check.built("mode a counter c max 9 base 1 least 1 task t priority 1 auto a alarm x"
+                    + " on c calls auto a in 1 every 1");
             Check.same("ahead of start()", kernel.count(6), 0);
             kernel.start(0);
             Check.same("start, and t", kernel.count(6), 2);
@@ -479,16 +490,19 @@ final class EdgesOfAnswers {
     }
 
     private static void countsThatStayNought() {
-        String plan = "mode a event e resource r resource q internal task t priority 1 auto a waits e uses r,q task u priority 5 uses r,q task v priority 9"
+        String plan = "mode a event e resource r resource q internal task t priority 1 auto a waits e uses r,q task u"
+                + " priority 5 uses r,q task v priority 9"
                 + " task w priority 3 whole isr i level 1 uses r isr j level 2";
-        Edge.of("promise 38", "no task was RUNNING though there was a TOP, or one that is not WHOLE with the TOP in a ROW above its CURRENT PRIORITY (always 0)", () -> {
+        Edge.of("promise 38", "no task was RUNNING though there was a TOP, or one that is not WHOLE with the TOP in a"
+                + " ROW above its CURRENT PRIORITY (always 0)", () -> {
             StaticKernel kernel = Check.started(plan);
             useAll(kernel);
             Check.same("count(7)", kernel.count(7), 0);
             kernel.halt(0);
             Check.same("off", kernel.count(7), 0);
         });
-        Edge.of("promise 38", "8 how often, behind such a call, a resource that is not internal was had by two (always 0)", () -> {
+        Edge.of("promise 38", "8 how often, behind such a call, a resource that is not internal was had by two (always"
+                + " 0)", () -> {
             StaticKernel kernel = Check.started(plan);
             useAll(kernel);
             Check.same("count(8)", kernel.count(8), 0);

@@ -202,8 +202,10 @@ final class EdgesOfFaults {
             Check.fault(0, ALARM + "1");
             Check.fault(0, ALARM + "10");
             Check.fault(4, ALARM + "^11");
-            Check.fault(4, "mode m alarm a on d calls auto m in ^11 counter d max 10 base 1 least 1 counter e max 11 base 1 least 1");
-            Check.fault(0, "mode m alarm a on e calls auto m in 11 counter d max 10 base 1 least 1 counter e max 11 base 1 least 1");
+            Check.fault(4, "mode m alarm a on d calls auto m in ^11 counter d max 10 base 1 least 1 counter e max 11"
+                    + " base 1 least 1");
+            Check.fault(0, "mode m alarm a on e calls auto m in 11 counter d max 10 base 1 least 1 counter e max 11"
+                    + " base 1 least 1");
         });
         Edge.of("section 1", "every neither 0 nor least .. max of it", () -> {
             Check.fault(0, ALARM + "1 every 0");

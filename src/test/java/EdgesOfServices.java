@@ -1,7 +1,6 @@
 /** Section 4 but for its alarms, and promises 8 to 17, 22 to 25. */
 final class EdgesOfServices {
     private static final int NONE = StaticKernel.NONE;
-    private static final int SERVICES = 18;
 
     private EdgesOfServices() {
     }
@@ -27,46 +26,10 @@ final class EdgesOfServices {
         halt();
     }
 
-    /** A service by its number; given and left answer -s for a status s. */
+    /** The status of a service by its number; given and left answer -s for a status s. */
     private static long serve(StaticKernel kernel, int service, int number) {
-        switch (service) {
-            case 1:
-                return kernel.activate(number);
-            case 2:
-                return kernel.terminate();
-            case 3:
-                return kernel.chain(number);
-            case 4:
-                return kernel.schedule();
-            case 5:
-                return kernel.take(number);
-            case 6:
-                return kernel.give(number);
-            case 7:
-                return kernel.signal(number, 1);
-            case 8:
-                return kernel.clear(number);
-            case 9:
-                return kernel.await(number);
-            case 10:
-                return -kernel.given(number);
-            case 11:
-                return kernel.after(number, 1, 0);
-            case 12:
-                return kernel.at(number, 1, 0);
-            case 13:
-                return kernel.cancel(number);
-            case 14:
-                return -kernel.left(number);
-            case 15:
-                return kernel.shut();
-            case 16:
-                return kernel.open();
-            case 17:
-                return kernel.leave();
-            default:
-                return kernel.halt(number);
-        }
+        long answer = Services.serve(kernel, service, number, 1, 0);
+        return service == 10 || service == 14 ? -answer : answer;
     }
 
     // ---- what all services share
@@ -75,7 +38,7 @@ final class EdgesOfServices {
         String plan = "mode a mode b event e resource r counter c max 9 base 1 least 1 task t priority 1 auto a waits e uses r"
                 + " isr i level 1 alarm x on c calls auto a,b in 1 every 1";
         Edge.of("section 4", "10: the kernel is off, or nobody is at work", () -> {
-            for (int service = 1; service <= SERVICES; service++) {
+            for (int service = 1; service <= Services.MANY; service++) {
                 StaticKernel kernel = Check.built(plan);
                 Check.same("off, service " + service, serve(kernel, service, 0), 10);
                 kernel.start(1);
@@ -92,7 +55,7 @@ final class EdgesOfServices {
             }
         });
         Edge.of("section 4", "But for 10 a status that isn't 0 is NOTED", () -> {
-            for (int service = 1; service <= SERVICES; service++) {
+            for (int service = 1; service <= Services.MANY; service++) {
                 StaticKernel kernel = Check.built(plan);
                 kernel.start(1);
                 serve(kernel, service, 0);
@@ -109,7 +72,7 @@ final class EdgesOfServices {
 
     private static void shut() {
         Edge.of("section 4", "9: SHUT is above 0 (but for shut, open, halt)", () -> {
-            for (int service = 1; service <= SERVICES; service++) {
+            for (int service = 1; service <= Services.MANY; service++) {
                 boolean isFree = service == 15 || service == 16 || service == 18;
                 StaticKernel kernel = Check.started("mode a event e task t priority 1 auto a waits e");
                 kernel.shut();
@@ -155,7 +118,7 @@ final class EdgesOfServices {
             StaticKernel kernel = Check.started("mode a counter c max 9 base 1 least 1 task t priority 1 auto a task u priority 1"
                     + " isr i level 1 alarm x on c calls");
             int[] due = {3, 0, 3, 0, 3, 3, 3, 1, 1, 3, 3, 3, 3, 3, 0, 5, 2, 0};
-            for (int service = 1; service <= SERVICES; service++) {
+            for (int service = 1; service <= Services.MANY; service++) {
                 int status = due[service - 1];
                 if (status != 0) {
                     Check.same("service " + service, serve(kernel, service, 99), status);
@@ -177,14 +140,16 @@ final class EdgesOfServices {
 
     private static void changesNothing() {
         Edge.of("section 4", "and one that isn't 0 changes nothing else", () -> {
-            StaticKernel kernel = Check.started("mode a event e resource r counter c max 9 base 1 least 2 task t priority 5 auto a waits e uses r"
+            StaticKernel kernel = Check.started("mode a event e resource r counter c max 9 base 1 least 2 task t"
+                    + " priority 5 auto a waits e uses r"
                     + " task u priority 9 task v priority 1 waits e alarm x on c calls auto a in 9 alarm y on c calls");
             kernel.take(1);
             String before = Edge.seen(kernel);
             int notes = kernel.count(6);
             long[] statuses = {kernel.activate(0), kernel.terminate(), kernel.chain(1), kernel.schedule(), kernel.take(1),
                 kernel.give(0), kernel.signal(2, 1), kernel.await(1), -kernel.given(2), kernel.after(0, 1, 0), kernel.at(0, 1, 0),
-                kernel.after(1, 0, 0), kernel.after(1, 1, 1), kernel.at(1, 10, 0), kernel.cancel(1), -kernel.left(1), kernel.open(),
+                kernel.after(1, 0, 0), kernel.after(1, 1, 1), kernel.at(1, 10, 0), kernel.cancel(1), -kernel.left(1),
+                        kernel.open(),
                 kernel.leave()};
             long[] due = {4, 6, 6, 6, 1, 5, 7, 6, 7, 7, 7, 8, 8, 8, 5, 5, 5, 2};
             for (int i = 0; i < due.length; i++) {
@@ -194,7 +159,7 @@ final class EdgesOfServices {
             Check.same("notes", kernel.count(6), notes + due.length);
             kernel.shut();
             before = Edge.seen(kernel);
-            for (int service = 1; service <= SERVICES; service++) {
+            for (int service = 1; service <= Services.MANY; service++) {
                 if (service < 15 || service == 17) {
                     Check.same("9", serve(kernel, service, 1), 9);
                 }
@@ -213,7 +178,8 @@ final class EdgesOfServices {
             Check.same("the last", kernel.activate(1), 0);
         });
         Edge.of("section 4", "4 it has as many REQUESTS as its LIMIT. It gets one more.", () -> {
-            StaticKernel kernel = Check.started("mode a task t priority 1 auto a limit 8 task u priority 0 limit 2 task v priority 0");
+            StaticKernel kernel = Check.started("mode a task t priority 1 auto a limit 8 task u priority 0 limit 2"
+                    + " task v priority 0");
             for (int n = 2; n <= 8; n++) {
                 Check.same("t " + n, kernel.activate(0), 0);
                 Check.same("t's requests", kernel.task(0, 1), n);
@@ -238,8 +204,10 @@ final class EdgesOfServices {
     }
 
     private static void terminate() {
-        Edge.of("section 4", "terminate() (2): 2 an ISR is at work; 6 the task has a resource (other than its internal one).", () -> {
-            StaticKernel kernel = Check.started("mode a resource r resource q internal task t priority 1 auto a uses r,q limit 2 isr i level 1");
+        Edge.of("section 4", "terminate() (2): 2 an ISR is at work; 6 the task has a resource (other than its internal"
+                + " one).", () -> {
+            StaticKernel kernel = Check.started("mode a resource r resource q internal task t priority 1 auto a uses"
+                    + " r,q limit 2 isr i level 1");
             kernel.call(0);
             Check.same("an ISR", kernel.terminate(), 2);
             kernel.leave();
@@ -272,7 +240,8 @@ final class EdgesOfServices {
     }
 
     private static void chain() {
-        String plan = "mode a resource r task t priority 1 auto a uses r limit 2 task u priority 5 limit 2 task v priority 0 isr i level 1";
+        String plan = "mode a resource r task t priority 1 auto a uses r limit 2 task u priority 5 limit 2 task v"
+                + " priority 0 isr i level 1";
         Edge.of("section 4", "chain(t) (3): 2, 6 as above; 3", () -> {
             StaticKernel kernel = Check.started(plan);
             kernel.call(0);
@@ -316,7 +285,8 @@ final class EdgesOfServices {
     }
 
     private static void schedule() {
-        String plan = "mode a resource r resource q internal task t priority 3 auto a uses r,q %s task u priority 3 task v priority 4"
+        String plan = "mode a resource r resource q internal task t priority 3 auto a uses r,q %s task u priority 3"
+                + " task v priority 4"
                 + " task w priority 8 uses q isr i level 1";
         Edge.of("section 4", "schedule() (4): 2, 6 as above.", () -> {
             StaticKernel kernel = Check.started(String.format(plan, ""));
@@ -368,7 +338,8 @@ final class EdgesOfServices {
     // ---- resources
 
     private static void take() {
-        String plan = "mode a resource r resource s as r resource q internal resource z task t priority 5 auto a uses r,q task u priority 4 uses z"
+        String plan = "mode a resource r resource s as r resource q internal resource z task t priority 5 auto a uses"
+                + " r,q task u priority 4 uses z"
                 + " task v priority 6 uses z isr i level 1 uses s isr j level 2";
         Edge.of("section 4", "take(r) (5): 3 no such resource, or an internal one", () -> {
             StaticKernel kernel = Check.started(plan);
@@ -394,7 +365,8 @@ final class EdgesOfServices {
             kernel.call(1);
             Check.same("65 is above 64", kernel.take(1), 1);
             Check.same("65 is above the SCHEDULER's", kernel.take(0), 1);
-            StaticKernel low = Check.started("mode a resource r resource s resource n task t priority 5 auto a task u priority 5 uses r"
+            StaticKernel low = Check.started("mode a resource r resource s resource n task t priority 5 auto a task u"
+                    + " priority 5 uses r"
                     + " task v priority 4 uses s");
             Check.same("5 is not above 5", low.take(1), 0);
             Check.same("5 is above 4", low.take(2), 1);
@@ -551,7 +523,8 @@ final class EdgesOfServices {
 
     private static void await() {
         Edge.of("section 4", "await(mask) (9): 2; 1 as above; 6 as in terminate.", () -> {
-            StaticKernel kernel = Check.started("mode a event e resource r resource q internal task t priority 5 auto a waits e uses r,q"
+            StaticKernel kernel = Check.started("mode a event e resource r resource q internal task t priority 5 auto"
+                    + " a waits e uses r,q"
                     + " task u priority 1 auto a isr i level 1");
             kernel.call(0);
             Check.same("an ISR", kernel.await(1), 2);
@@ -566,7 +539,8 @@ final class EdgesOfServices {
             Check.same("u", kernel.running(), 1);
             Check.same("basic", kernel.await(1), 1);
         });
-        Edge.of("section 4", "If none of its EVENTS in mask is SET, it is WAITING for these (and gives its internal resource).", () -> {
+        Edge.of("section 4", "If none of its EVENTS in mask is SET, it is WAITING for these (and gives its internal"
+                + " resource).", () -> {
             StaticKernel kernel = Check.started(EVENTS);
             kernel.signal(0, 1);
             Check.same("set", kernel.await(1), 0);
@@ -583,7 +557,8 @@ final class EdgesOfServices {
             Check.same("waiting", none.task(0, 0), 3);
             Check.same("for none", none.bits(0, 2), 0);
             Check.same("no bit", Check.started(EVENTS).await(0), 0);
-            StaticKernel internal = Check.started("mode a event e resource q internal task t priority 5 auto a waits e uses q task u priority 9 uses q");
+            StaticKernel internal = Check.started("mode a event e resource q internal task t priority 5 auto a waits e"
+                    + " uses q task u priority 9 uses q");
             internal.signal(0, 1);
             internal.await(1);
             Check.same("it does not wait, and has it", internal.task(0, 3), 1);
@@ -600,7 +575,8 @@ final class EdgesOfServices {
     }
 
     private static void given() {
-        Edge.of("section 4", "given(t) (10): 3, 1, 7 as in signal: else a number from 0 on: the bits of the EVENTS of t that are SET.", () -> {
+        Edge.of("section 4", "given(t) (10): 3, 1, 7 as in signal: else a number from 0 on: the bits of the EVENTS of"
+                + " t that are SET.", () -> {
             StaticKernel kernel = Check.started(EVENTS);
             Edge.each("given", -3, kernel::given, Edge.NO_NUMBERS);
             Check.same("just beyond", kernel.given(3), -3);
@@ -613,7 +589,8 @@ final class EdgesOfServices {
             Check.same("all three", kernel.given(0), THREE);
         });
         Edge.of("section 4", "(A status s comes as -s here, in left, too.)", () -> {
-            StaticKernel kernel = Check.built("mode a counter c max 9 base 1 least 1 task t priority 1 auto a alarm x on c calls");
+            StaticKernel kernel = Check.built("mode a counter c max 9 base 1 least 1 task t priority 1 auto a alarm x"
+                    + " on c calls");
             Check.same("given, off", kernel.given(0), -10);
             Check.same("left, off", kernel.left(0), -10);
             kernel.start(0);
@@ -659,7 +636,8 @@ final class EdgesOfServices {
             Check.same("at 0", kernel.open(), 5);
             Check.same("SHUT", kernel.count(3), 0);
         });
-        Edge.of("section 4", "when it is 0 then, the TICKS that wait are done, counter by counter, each by itself, and wait no more", () -> {
+        Edge.of("section 4", "when it is 0 then, the TICKS that wait are done, counter by counter, each by itself, and"
+                + " wait no more", () -> {
             StaticKernel kernel = Check.started("mode a counter c max 9 base 1 least 1 counter d max 9 base 2 least 1"
                     + " task t priority 1 auto a alarm x on d calls auto a in 1 every 1 alarm y on c calls auto a in 1 every 1");
             kernel.shut();
@@ -698,7 +676,8 @@ final class EdgesOfServices {
 
     private static void leave() {
         Edge.of("section 4", "leave() (17): 2 no ISR is at work; 6 it has a resource.", () -> {
-            StaticKernel kernel = Check.started("mode a resource r task t priority 1 auto a uses r isr i level 1 uses r isr j level 2");
+            StaticKernel kernel = Check.started("mode a resource r task t priority 1 auto a uses r isr i level 1 uses"
+                    + " r isr j level 2");
             Check.same("no ISR", kernel.leave(), 2);
             kernel.call(0);
             kernel.take(1);

@@ -102,7 +102,8 @@ final class EdgesOfThings {
     }
 
     private static void ceilings() {
-        Edge.of("section 2", "their CEILING is the greatest PRIORITY of all tasks and isrs that use one of the GROUP (-1 of none)", () -> {
+        Edge.of("section 2", "their CEILING is the greatest PRIORITY of all tasks and isrs that use one of the GROUP"
+                + " (-1 of none)", () -> {
             StaticKernel kernel = Check.started("mode a resource n resource z resource p resource q as p resource r"
                     + " task t priority 0 auto a uses z,p task u priority 63 uses q task v priority 7 uses r,q"
                     + " isr i level 16 uses r isr j level 1 uses r");
@@ -125,7 +126,8 @@ final class EdgesOfThings {
     }
 
     private static void currentPriority() {
-        Edge.of("section 2", "The CURRENT PRIORITY of a task or ISR is the greatest of its PRIORITY and the CEILINGS of the resources that it HAS.", () -> {
+        Edge.of("section 2", "The CURRENT PRIORITY of a task or ISR is the greatest of its PRIORITY and the CEILINGS"
+                + " of the resources that it HAS.", () -> {
             StaticKernel kernel = Check.started("mode a resource own resource low resource high resource isr_s"
                     + " task t priority 5 auto a uses own,low,high,isr_s task u priority 6 uses low task v priority 9 uses high"
                     + " isr i level 3 uses isr_s isr j level 1 uses isr_s");
@@ -151,8 +153,28 @@ final class EdgesOfThings {
     }
 
     private static void requests() {
+        Edge.of("section 2", "A REQUEST is a task that was activated and is not through.", () -> {
+            StaticKernel kernel = Check.started("mode a event e task t priority 1 limit 3 auto a task u priority 2 waits e");
+            kernel.activate(0);
+            kernel.activate(1);
+            kernel.await(1);
+            Check.same("ready, running and waiting", kernel.count(5), 3);
+            kernel.activate(9);
+            kernel.activate(1);
+            Check.same("refused ones are none", kernel.count(5), 3);
+            kernel.terminate();
+            Check.same("one is through", kernel.count(5), 2);
+            kernel.signal(1, 1);
+            Check.same("one waits no longer", kernel.count(5), 2);
+            kernel.terminate();
+            kernel.terminate();
+            Check.same("all are through", kernel.count(5), 0);
+            kernel.terminate();
+            Check.same("none, not below", kernel.count(5), 0);
+        });
         Edge.of("section 2", "One is RUNNING at most", () -> {
-            StaticKernel kernel = Check.started("mode a task t priority 1 auto a task u priority 1 auto a limit 2 task v priority 2 auto a");
+            StaticKernel kernel = Check.started("mode a task t priority 1 auto a task u priority 1 auto a limit 2 task"
+                    + " v priority 2 auto a");
             for (int n = 0; n < 4; n++) {
                 int running = 0;
                 for (int t = 0; t < 3; t++) {
@@ -175,7 +197,8 @@ final class EdgesOfThings {
 
     private static void rowsThatThereAre() {
         Edge.of("section 2", "All others lie in ROWS, one for each number 0 .. 63", () -> {
-            StaticKernel kernel = Check.started("mode a task t priority 63 whole auto a task low priority 0 auto a task high priority 63 auto a");
+            StaticKernel kernel = Check.started("mode a task t priority 63 whole auto a task low priority 0 auto a"
+                    + " task high priority 63 auto a");
             Edge.row(kernel, 0, 1);
             Edge.row(kernel, 63, 2);
             for (int p = 1; p < 63; p++) {
@@ -188,7 +211,8 @@ final class EdgesOfThings {
 
     private static void placesInRows() {
         Edge.of("section 2", "a new one comes behind the last one of the ROW of its task's PRIORITY", () -> {
-            StaticKernel kernel = Check.started("mode a task t priority 9 auto a task u priority 5 limit 2 task v priority 5 limit 2"
+            StaticKernel kernel = Check.started("mode a task t priority 9 auto a task u priority 5 limit 2 task v"
+                    + " priority 5 limit 2"
                     + " task w priority 6 task x priority 4");
             for (int t : new int[] {1, 2, 4, 3, 2, 1}) {
                 kernel.activate(t);
@@ -209,7 +233,8 @@ final class EdgesOfThings {
             Edge.row(kernel, 5, 1, 1, 0, 1);
         });
         Edge.of("section 2", "one that is PREEMPTED comes ahead of the first one of the ROW of its CURRENT PRIORITY", () -> {
-            StaticKernel kernel = Check.started("mode a resource r task t priority 1 auto a uses r limit 2 task u priority 5 uses r"
+            StaticKernel kernel = Check.started("mode a resource r task t priority 1 auto a uses r limit 2 task u"
+                    + " priority 5 uses r"
                     + " task v priority 1 task w priority 6 task x priority 4");
             kernel.activate(2);
             kernel.activate(0);
@@ -231,7 +256,8 @@ final class EdgesOfThings {
 
     private static void top() {
         Edge.of("section 2", "The TOP is the first one of the highest ROW that is not empty.", () -> {
-            StaticKernel kernel = Check.started("mode a task s priority 63 whole auto a task t priority 0 limit 2 task u priority 62"
+            StaticKernel kernel = Check.started("mode a task s priority 63 whole auto a task t priority 0 limit 2 task"
+                    + " u priority 62"
                     + " task v priority 62 task w priority 63 task x priority 1");
             for (int t : new int[] {1, 5, 3, 2, 4, 1}) {
                 kernel.activate(t);
@@ -244,8 +270,10 @@ final class EdgesOfThings {
     }
 
     private static void states() {
-        Edge.of("section 2", "A task's STATE: 2 RUNNING, 3 WAITING, 1 READY (it is neither, and has a REQUEST), 0 SUSPENDED.", () -> {
-            StaticKernel kernel = Check.started("mode a event e task t priority 5 auto a waits e task u priority 4 auto a limit 2 task v priority 3 auto a"
+        Edge.of("section 2", "A task's STATE: 2 RUNNING, 3 WAITING, 1 READY (it is neither, and has a REQUEST), 0"
+                + " SUSPENDED.", () -> {
+            StaticKernel kernel = Check.started("mode a event e task t priority 5 auto a waits e task u priority 4"
+                    + " auto a limit 2 task v priority 3 auto a"
                     + " task w priority 9");
             kernel.await(1);
             kernel.activate(1);
@@ -277,7 +305,8 @@ final class EdgesOfThings {
 
     private static void eventsOfANewRequest() {
         Edge.of("section 2", "When a task with EVENTS that is SUSPENDED gets a REQUEST, none of its EVENTS are SET.", () -> {
-            StaticKernel kernel = Check.started("mode a event e event f task t priority 5 auto a waits e,f task u priority 1 auto a");
+            StaticKernel kernel = Check.started("mode a event e event f task t priority 5 auto a waits e,f task u"
+                    + " priority 1 auto a");
             kernel.signal(0, 3);
             Check.same("refused, it is not suspended", kernel.activate(0), 4);
             Check.same("set yet", kernel.bits(0, 1), 3);
@@ -295,7 +324,8 @@ final class EdgesOfThings {
     private static void internalResource() {
         String plan = "mode a event e resource r internal task t priority 2 auto a waits e uses r task u priority 7 uses r"
                 + " task v priority 9 task w priority 5 auto a";
-        Edge.of("section 2", "A REQUEST that becomes RUNNING has its task's internal resource from then on (if it uses one)", () -> {
+        Edge.of("section 2", "A REQUEST that becomes RUNNING has its task's internal resource from then on (if it uses"
+                + " one)", () -> {
             StaticKernel kernel = Check.started(plan);
             Check.same("w uses none", kernel.task(3, 3), 0);
             Check.same("t is ready", kernel.task(0, 3), 0);
@@ -331,8 +361,10 @@ final class EdgesOfThings {
         });
     }
 
-    private static final String FULL_OF_STATE = "mode a mode b event e resource r resource s internal counter c max 9 base 2 least 1"
-            + " task t priority 5 auto a uses r,s limit 3 task u priority 9 waits e auto a task v priority 1 auto a task w priority 10 waits e auto a"
+    private static final String FULL_OF_STATE = "mode a mode b event e resource r resource s internal counter c max 9"
+            + " base 2 least 1"
+            + " task t priority 5 auto a uses r,s limit 3 task u priority 9 waits e auto a task v priority 1 auto a"
+                    + " task w priority 10 waits e auto a"
             + " isr i level 1 uses r isr j level 2 alarm x on c calls auto a in 5 every 2";
 
     private static StaticKernel fullOfState() {
@@ -355,7 +387,8 @@ final class EdgesOfThings {
     }
 
     private static void whenNothingIs() {
-        Edge.of("section 2", "nothing is at work, CALLED, SET or had, there are no REQUESTS, no alarm is in use, no TICKS wait, SHUT is 0", () -> {
+        Edge.of("section 2", "nothing is at work, CALLED, SET or had, there are no REQUESTS, no alarm is in use, no"
+                + " TICKS wait, SHUT is 0", () -> {
             String atFirst = Edge.seen(Check.built(FULL_OF_STATE)).replaceAll("counter 0: \\d+ \\d+", "counter 0: ? ?");
             StaticKernel kernel = fullOfState();
             Check.same("an ISR at work", kernel.atWork(), 101);

@@ -58,7 +58,8 @@ final class EdgesOfTicks {
 
     private static void meeting() {
         Edge.of("section 5", "Behind a step those alarms on it that are in use and whose DUE is VALUE are met, in order", () -> {
-            StaticKernel kernel = Check.started("mode a counter c max 9 base 2 least 1 counter d max 9 base 1 least 1 task t priority 1 auto a"
+            StaticKernel kernel = Check.started("mode a counter c max 9 base 2 least 1 counter d max 9 base 1 least 1"
+                    + " task t priority 1 auto a"
                     + " alarm p on c calls auto a in 2 alarm q on d calls auto a in 2 alarm r on c calls auto a in 1"
                     + " alarm s on c calls auto a in 2 alarm u on c calls");
             Check.same("no step", kernel.tick(0, 1), 0);
@@ -77,7 +78,8 @@ final class EdgesOfTicks {
 
     private static void actions() {
         Edge.of("section 5", "starts: the task gets a REQUEST (4 NOTED, if it has as many as its LIMIT)", () -> {
-            StaticKernel kernel = Check.started("mode a counter c max 9 base 1 least 1 task t priority 5 auto a task u priority 1 limit 2"
+            StaticKernel kernel = Check.started("mode a counter c max 9 base 1 least 1 task t priority 5 auto a task u"
+                    + " priority 1 limit 2"
                     + " alarm x on c starts u auto a in 1 every 1");
             Check.same("met", kernel.tick(0, 1), 1);
             Check.same("requests", kernel.task(1, 1), 1);
@@ -89,7 +91,8 @@ final class EdgesOfTicks {
             Check.latest("noted", kernel, 40000, 32004);
         });
         Edge.of("section 5", "sets: as signal of that event (7 NOTED, if the task is SUSPENDED)", () -> {
-            StaticKernel kernel = Check.started("mode a " + Check.items(32, "event", "") + "counter c max 9 base 1 least 1 task t priority 1 auto a"
+            StaticKernel kernel = Check.started("mode a " + Check.items(32, "event", "") + "counter c max 9 base 1"
+                    + " least 1 task t priority 1 auto a"
                     + " task u priority 5 waits bfz,aaz alarm x on c sets u bfz auto a in 1 every 1");
             Check.same("suspended: met all the same", kernel.tick(0, 1), 1);
             Check.latest("noted", kernel, 40000, 32007);
@@ -121,7 +124,8 @@ final class EdgesOfTicks {
     private static void everyOrOnce() {
         Edge.of("section 5", "With EVERY 0 it is in use no more, else DUE is EVERY behind VALUE.", () -> {
             StaticKernel kernel = Check.started("mode a counter c max 9 base 1 least 1 task t priority 1 auto a"
-                    + " alarm x on c calls auto a in 1 alarm y on c calls auto a in 1 every 1 alarm z on c calls auto a in 1 every 9");
+                    + " alarm x on c calls auto a in 1 alarm y on c calls auto a in 1 every 1 alarm z on c calls auto"
+                            + " a in 1 every 9");
             Check.same("all", kernel.tick(0, 1), 3);
             Check.same("0: in use no more", kernel.alarm(0, 0), NONE);
             Check.same("1", kernel.alarm(1, 0), 1);
@@ -137,13 +141,15 @@ final class EdgesOfTicks {
 
     private static void tick() {
         Edge.of("promise 26", "n TICKS of counter c, each by itself: how many alarms were met", () -> {
-            StaticKernel kernel = Check.started("mode a counter b max 9 base 1 least 1 counter c max 1 base 1 least 1 task t priority 1 auto a"
+            StaticKernel kernel = Check.started("mode a counter b max 9 base 1 least 1 counter c max 1 base 1 least 1"
+                    + " task t priority 1 auto a"
                     + Check.items(48, " alarm", " on c calls auto a in 1 every 1"));
             Check.same("none", kernel.tick(0, 1000), 0);
             Check.same("one TICK", kernel.tick(1, 1), 48);
             Check.same("a thousand", kernel.tick(1, 1000), 48000);
             Check.same("VALUE", kernel.counter(1, 0), 1);
-            StaticKernel idle = Check.started("mode a counter c max 9 base 1 least 1 task t priority 1 alarm x on c starts t auto a in 2");
+            StaticKernel idle = Check.started("mode a counter c max 9 base 1 least 1 task t priority 1 alarm x on c"
+                    + " starts t auto a in 2");
             Check.same("while it idles", idle.tick(0, 1), 0);
             Check.same("while it idles", idle.tick(0, 1), 1);
             Check.same("t", idle.running(), 0);
@@ -186,7 +192,8 @@ final class EdgesOfTicks {
             Check.same("VALUE", kernel.counter(0, 0), 1);
         });
         Edge.of("promise 26", "there is no such counter, or n is not 1 .. 1000", () -> {
-            StaticKernel kernel = Check.started("mode a counter b max 9 base 1 least 1 counter c max 9999 base 1 least 1 task t priority 1 auto a");
+            StaticKernel kernel = Check.started("mode a counter b max 9 base 1 least 1 counter c max 9999 base 1 least"
+                    + " 1 task t priority 1 auto a");
             Edge.each("counter", NONE, c -> kernel.tick(c, 1), Edge.NO_NUMBERS);
             Check.same("just beyond", kernel.tick(2, 1), NONE);
             Edge.each("n", NONE, n -> kernel.tick(1, n), 0, 1001, -1, Integer.MIN_VALUE, Integer.MAX_VALUE);
@@ -237,7 +244,8 @@ final class EdgesOfTicks {
             kernel.signal(0, 1);
             kernel.terminate();
             Check.notes("all", kernel, 70000, 10000, 20000, 10001, 20001, 10000, 20000, 10001);
-            StaticKernel many = Check.started("mode a" + Check.items(47, " task", " priority 0") + " task last priority 63 auto a");
+            StaticKernel many = Check.started("mode a" + Check.items(47, " task", " priority 0") + " task last"
+                    + " priority 63 auto a");
             Check.same("task 47", many.note(0), 10047);
             many.terminate();
             Check.same("task 47", many.note(0), 20047);
@@ -246,7 +254,8 @@ final class EdgesOfTicks {
 
     private static void notesOfStatuses() {
         Edge.of("section 6", "3: status s of service v: n = 100 * v + s (of an alarm's action v is 20)", () -> {
-            StaticKernel kernel = Check.started("mode a event e counter c max 9 base 1 least 1 task t priority 1 auto a task u priority 1 waits e"
+            StaticKernel kernel = Check.started("mode a event e counter c max 9 base 1 least 1 task t priority 1 auto"
+                    + " a task u priority 1 waits e"
                     + " alarm x on c starts t auto a in 1 alarm y on c sets u e auto a in 1");
             kernel.activate(9);
             Check.same("service 1, status 3", kernel.note(0), 30103);
@@ -263,7 +272,8 @@ final class EdgesOfTicks {
 
     private static void notesOfTheRest() {
         Edge.of("section 6", "4 n: alarm n is met (ahead of its action)", () -> {
-            StaticKernel kernel = Check.started("mode a counter c max 9 base 1 least 1 task t priority 1" + Check.items(47, " alarm", " on c calls")
+            StaticKernel kernel = Check.started("mode a counter c max 9 base 1 least 1 task t priority 1"
+                    + Check.items(47, " alarm", " on c calls")
                     + " alarm last on c starts t auto a in 1");
             kernel.tick(0, 1);
             Check.notes("all", kernel, 70000, 40047, 10000);
@@ -284,7 +294,8 @@ final class EdgesOfTicks {
             kernel.start(0);
             Check.notes("all", kernel, 70000);
         });
-        Edge.of("section 6", "8 n: halt (n is the lowest seven bits of the code; tasks and ISRs that were at work are not NOTED)", () -> {
+        Edge.of("section 6", "8 n: halt (n is the lowest seven bits of the code; tasks and ISRs that were at work are"
+                + " not NOTED)", () -> {
             int[] codes = {0, 1, 127, 128, 129, 255, 256, -1, -128, Integer.MIN_VALUE, Integer.MAX_VALUE};
             int[] due = {0, 1, 127, 0, 1, 127, 0, 127, 0, 0, 127};
             StaticKernel kernel = Check.built("mode a task t priority 1 auto a isr i level 1");

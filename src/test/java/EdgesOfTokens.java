@@ -177,7 +177,8 @@ final class EdgesOfTokens {
             Check.same("resources", kernel.many(2), 1);
             Check.same("build(0)", kernel.build(0), 0);
             Check.same("modes", kernel.many(0), 0);
-            String plain = "mode a resource r counter c max 9 base 1 least 1 task t priority 1 auto a isr i level 1 alarm x on c calls";
+            String plain = "mode a resource r counter c max 9 base 1 least 1 task t priority 1 auto a isr i level 1"
+                    + " alarm x on c calls";
             StaticKernel other = Check.started("mode z event e resource q internal counter d max 5 base 2 least 2"
                     + " task u priority 9 whole waits e uses q auto z isr j level 3 alarm y on d sets u e auto z in 5 every 4");
             other.tick(0, 1);
@@ -186,6 +187,10 @@ final class EdgesOfTokens {
             Check.same("nothing of the PLAN of before", Edge.seen(other), Edge.seen(Check.built(plain)));
             other.start(0);
             Check.same("nor in what it does", Edge.seen(other), Edge.seen(Check.started(plain)));
+            StaticKernel third = Check.built("resource a resource x");
+            Check.same("x means nothing now", third.build(Check.feed(third, "resource r as x")), NONE);
+            Check.same("kind", third.fault(0), 3);
+            Check.same("place", third.fault(1), 14);
         });
         Edge.of("promise 3", "NONE with a FAULT (the PLAN of before stays)", () -> {
             StaticKernel kernel = Check.built("mode a task t priority 7 auto a resource r task u priority 9 uses r");
@@ -468,6 +473,17 @@ final class EdgesOfTokens {
             Check.fault(0, "mode a event b");
             Check.fault(1, "mode a ^x");
         });
+        Edge.of("section 1", "ITEM: 'mode' NAME | 'event' NAME", () -> {
+            for (String word : new String[] {"mode", "event"}) {
+                Check.fault(0, word + " a");
+                Check.fault(1, word + "^");
+                Check.fault(1, word + " ^1");
+                Check.fault(1, word + " ^,");
+                Check.fault(1, word + " a ^b");
+                Check.fault(1, word + " a^, b");
+                Check.fault(1, word + " a ^internal");
+            }
+        });
         Edge.of("section 1", "'resource' NAME [ 'internal' | 'as' NAME ]", () -> {
             Check.fault(0, "resource r");
             Check.fault(0, "resource r internal");
@@ -494,7 +510,22 @@ final class EdgesOfTokens {
             Check.fault(1, "task t^");
             Check.fault(1, "task t ^whole priority 1");
             Check.fault(1, "task t priority 1 ^priority 1");
+            Check.fault(1, "task t priority^");
+        });
+        Edge.of("section 1", "PART: 'whole' | 'limit' NUMBER | 'auto' NAMES | 'uses' NAMES | 'waits' NAMES.", () -> {
+            Check.fault(1, "task t priority 1 whole ^1");
+            Check.fault(1, "task t priority 1 whole ^a");
             Check.fault(1, "task t priority 1 limit^");
+            Check.fault(1, "task t priority 1 limit ^a");
+            Check.fault(1, "task t priority 1 limit 1 ^1");
+            for (String word : new String[] {"auto", "uses", "waits"}) {
+                Check.fault(1, "task t priority 1 " + word + "^");
+                Check.fault(1, "task t priority 1 " + word + " ^1");
+                Check.fault(1, "task t priority 1 " + word + " ^whole");
+                Check.fault(1, "task t priority 1 " + word + " a ^b");
+            }
+            Check.fault(1, "task t priority 1 ^internal");
+            Check.fault(1, "task t priority 1 ^level 1");
         });
         Edge.of("section 1", "'isr' NAME 'level' NUMBER [ 'uses' NAMES ]", () -> {
             Check.fault(0, "isr i level 1 resource r");
@@ -503,7 +534,17 @@ final class EdgesOfTokens {
             Check.fault(1, "isr i level 1 uses ^resource r");
             Check.fault(1, "isr i level 1 ^auto a");
         });
-        Edge.of("section 1", "( 'starts' NAME | 'sets' NAME NAME | 'calls' ) [ 'auto' NAMES 'in' NUMBER [ 'every' NUMBER ] ]", () -> {
+        Edge.of("section 1", "'alarm' NAME 'on' NAME", () -> {
+            String tail = " calls counter c max 9 base 1 least 1";
+            Check.fault(0, "alarm a on c" + tail);
+            Check.fault(1, "alarm a ^c" + tail);
+            Check.fault(1, "alarm a on^");
+            Check.fault(1, "alarm a on ^calls");
+            Check.fault(1, "alarm a on c^, c" + tail);
+            Check.fault(1, "alarm ^on c" + tail);
+        });
+        Edge.of("section 1", "( 'starts' NAME | 'sets' NAME NAME | 'calls' ) [ 'auto' NAMES 'in' NUMBER [ 'every'"
+                + " NUMBER ] ]", () -> {
             String head = "mode m event e counter c max 9 base 1 least 1 task t priority 1 waits e alarm a on c ";
             Check.fault(0, head + "starts t");
             Check.fault(0, head + "sets t e");
@@ -535,7 +576,8 @@ final class EdgesOfTokens {
 
     private static void numbering() {
         Edge.of("section 1", "Things of each SORT are numbered from 0 on, as they are told", () -> {
-            StaticKernel kernel = Check.built("task z priority 1 mode y task x priority 2 mode w event v isr u level 1 task s priority 3");
+            StaticKernel kernel = Check.built("task z priority 1 mode y task x priority 2 mode w event v isr u level 1"
+                    + " task s priority 3");
             Check.same("task 0", kernel.name(4, 0, 0), letter('z'));
             Check.same("task 1", kernel.name(4, 1, 0), letter('x'));
             Check.same("task 2", kernel.name(4, 2, 0), letter('s'));

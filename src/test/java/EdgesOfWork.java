@@ -18,7 +18,8 @@ final class EdgesOfWork {
     }
 
     private static void atWork() {
-        Edge.of("section 3", "AT WORK is the ISR that began last and has not ended; without one the RUNNING task; else nobody (the kernel idles).", () -> {
+        Edge.of("section 3", "AT WORK is the ISR that began last and has not ended; without one the RUNNING task; else"
+                + " nobody (the kernel idles).", () -> {
             StaticKernel kernel = Check.started("mode a task t priority 1 auto a isr i level 1 isr j level 2");
             Check.same("the task", kernel.atWork(), 0);
             kernel.call(0);
@@ -75,8 +76,10 @@ final class EdgesOfWork {
     }
 
     private static void settlingBehindEach() {
-        Edge.of("section 3", "SETTLING, behind each service of section 4, each TICK that is done, each call() and start()", () -> {
-            String plan = "mode a mode b counter c max 9 base 1 least 1 task t priority 1 auto a task u priority 2 task v priority 3"
+        Edge.of("section 3", "SETTLING, behind each service of section 4, each TICK that is done, each call() and"
+                + " start()", () -> {
+            String plan = "mode a mode b counter c max 9 base 1 least 1 task t priority 1 auto a task u priority 2"
+                    + " task v priority 3"
                     + " isr i level 1 alarm x on c starts u auto a in 1 alarm y on c starts v auto a in 2";
             StaticKernel kernel = Check.built(plan);
             kernel.start(0);
@@ -101,8 +104,10 @@ final class EdgesOfWork {
     }
 
     private static void whichIsrsBegin() {
-        Edge.of("section 3", "as long as there is an ISR that is CALLED and whose PRIORITY is above the CURRENT PRIORITY of what is at work", () -> {
-            StaticKernel kernel = Check.started("mode a resource r task t priority 1 auto a uses r isr i level 1 isr j level 2 uses r isr k level 3");
+        Edge.of("section 3", "as long as there is an ISR that is CALLED and whose PRIORITY is above the CURRENT"
+                + " PRIORITY of what is at work", () -> {
+            StaticKernel kernel = Check.started("mode a resource r task t priority 1 auto a uses r isr i level 1 isr j"
+                    + " level 2 uses r isr k level 3");
             kernel.take(1);
             kernel.call(0);
             Check.same("64 is below 65", kernel.atWork(), 0);
@@ -142,7 +147,8 @@ final class EdgesOfWork {
 
     private static void ofLikeIsrs() {
         Edge.of("section 3", "the greatest such (of like ones the first)", () -> {
-            StaticKernel kernel = Check.started("mode a task t priority 1 auto a isr h level 1 isr i level 15 isr j level 16 isr k level 16 isr l level 1");
+            StaticKernel kernel = Check.started("mode a task t priority 1 auto a isr h level 1 isr i level 15 isr j"
+                    + " level 16 isr k level 16 isr l level 1");
             kernel.shut();
             for (int i = 4; i >= 0; i--) {
                 kernel.call(i);
@@ -188,8 +194,10 @@ final class EdgesOfWork {
             Check.same("there is none", kernel.running(), NONE);
             Check.same("nobody is at work", kernel.terminate(), 10);
         });
-        Edge.of("section 3", "else if the RUNNING task is not WHOLE and the TOP lies in a ROW above its CURRENT PRIORITY, that is PREEMPTED", () -> {
-            String tasks = " resource r task t priority 4 auto a uses r %s task u priority 4 task v priority 5 task w priority 7 uses r"
+        Edge.of("section 3", "else if the RUNNING task is not WHOLE and the TOP lies in a ROW above its CURRENT"
+                + " PRIORITY, that is PREEMPTED", () -> {
+            String tasks = " resource r task t priority 4 auto a uses r %s task u priority 4 task v priority 5 task w"
+                    + " priority 7 uses r"
                     + " task x priority 8";
             StaticKernel kernel = Check.started("mode a" + String.format(tasks, ""));
             kernel.activate(1);
@@ -215,7 +223,8 @@ final class EdgesOfWork {
             Check.same("not preempted", whole.count(6), 2);
         });
         Edge.of("section 3", "(it keeps what it has)", () -> {
-            StaticKernel kernel = Check.started("mode a resource r resource s internal task t priority 4 auto a uses r,s task u priority 5");
+            StaticKernel kernel = Check.started("mode a resource r resource s internal task t priority 4 auto a uses"
+                    + " r,s task u priority 5");
             kernel.take(1);
             kernel.activate(1);
             Check.same("u", kernel.running(), 1);
@@ -257,7 +266,8 @@ final class EdgesOfWork {
     }
 
     private static void startInAMode() {
-        String plan = "mode a mode b counter c max 9 base 3 least 1 task t priority 1 auto a,b task u priority 1 auto b task v priority 1 auto a"
+        String plan = "mode a mode b counter c max 9 base 3 least 1 task t priority 1 auto a,b task u priority 1 auto"
+                + " b task v priority 1 auto a"
                 + " task z priority 2 alarm x on c calls auto b,a in 9 every 2 alarm y on c calls auto b in 1 alarm w on c calls";
         Edge.of("promise 7", "all VALUES and TICKS are 0, nothing is NOTED, the kernel is on", () -> {
             StaticKernel kernel = Check.started(plan);

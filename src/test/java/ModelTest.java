@@ -312,7 +312,7 @@ final class ModelTest {
             z = DICE.chance(40) ? 0 : DICE.roll(12) - 1;
         }
         long due = model.service(number, x, y, z);
-        answered("service " + number + "(" + x + ", " + y + ", " + z + ")", serve(number, x, y, z), due);
+        answered("service " + number + "(" + x + ", " + y + ", " + z + ")", Services.serve(kernel, number, x, y, z), due);
     }
 
     private static int lastTakenOrAny() {
@@ -323,47 +323,6 @@ final class ModelTest {
             taken = model.running.taken;
         }
         return taken.isEmpty() || DICE.chance(15) ? pick(model.resources.size()) : taken.get(taken.size() - 1);
-    }
-
-    private static long serve(int number, int x, int y, int z) {
-        switch (number) {
-            case 1:
-                return kernel.activate(x);
-            case 2:
-                return kernel.terminate();
-            case 3:
-                return kernel.chain(x);
-            case 4:
-                return kernel.schedule();
-            case 5:
-                return kernel.take(x);
-            case 6:
-                return kernel.give(x);
-            case 7:
-                return kernel.signal(x, y);
-            case 8:
-                return kernel.clear(x);
-            case 9:
-                return kernel.await(x);
-            case 10:
-                return kernel.given(x);
-            case 11:
-                return kernel.after(x, y, z);
-            case 12:
-                return kernel.at(x, y, z);
-            case 13:
-                return kernel.cancel(x);
-            case 14:
-                return kernel.left(x);
-            case 15:
-                return kernel.shut();
-            case 16:
-                return kernel.open();
-            case 17:
-                return kernel.leave();
-            default:
-                return kernel.halt(x);
-        }
     }
 
     // ---- all that can be seen
