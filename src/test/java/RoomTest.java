@@ -18,12 +18,6 @@ final class RoomTest {
     /** So many kernels that are made in one run must find room. */
     private static final int KERNELS = 100;
     private static final int ROUNDS = 200;
-    private static final String PLAN = "mode m mode n event e event f resource r resource s as r resource q internal"
-            + " counter c max 3 base 2 least 1 counter d max 65535 base 1 least 9"
-            + " task t priority 3 auto m uses r,q limit 8 task u priority 9 uses q waits e,f auto n"
-            + " task v priority 3 whole auto m,n limit 3 task w priority 63 uses s"
-            + " isr i level 1 uses r isr j level 16 isr k level 16 uses s"
-            + " alarm a on c starts t auto m,n in 1 every 1 alarm b on c sets u f auto m in 3 every 2 alarm x on d calls";
 
     private static long objects;
     private static long elements;
@@ -36,7 +30,7 @@ final class RoomTest {
         System.out.println("a kernel has " + objects + " objects, " + elements + " fields and elements");
         Check.yes("objects: " + objects, objects * KERNELS <= OBJECTS);
         Check.yes("fields and elements: " + elements, elements * KERNELS <= ELEMENTS);
-        useAll(kernel, words(PLAN));
+        useAll(kernel, words(WildTest.PLAN));
         measure(kernel);
         Check.same("objects when it was used", objects, objectsAtFirst);
         Check.same("fields and elements when it was used", elements, elementsAtFirst);
@@ -98,7 +92,7 @@ final class RoomTest {
     private static void callsMakeNothing(StaticKernel kernel) {
         ThreadMXBean threads = (ThreadMXBean) ManagementFactory.getThreadMXBean();
         long self = Thread.currentThread().getId();
-        int[] words = words(PLAN);
+        int[] words = words(WildTest.PLAN);
         useAll(kernel, words);
         long before = threads.getThreadAllocatedBytes(self);
         for (int round = 0; round < ROUNDS; round++) {

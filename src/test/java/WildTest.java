@@ -15,7 +15,8 @@ final class WildTest {
     private static final Set<String> MAY_THROW = Set.of("name", "task", "bits", "resource", "isr", "counter", "alarm", "note");
     private static final int[] WILD = {Integer.MIN_VALUE, Integer.MIN_VALUE + 1, -1000, -2, 64, 99, 100, 512, 1000, 1001,
         4000, 65535, 65536, Integer.MAX_VALUE - 1, Integer.MAX_VALUE};
-    private static final String PLAN = "mode m mode n event e event f resource r resource s as r resource q internal"
+    /** Something of every SORT, in most of its forms. */
+    static final String PLAN = "mode m mode n event e event f resource r resource s as r resource q internal"
             + " counter c max 3 base 2 least 1 counter d max 65535 base 1 least 9"
             + " task t priority 3 auto m uses r,q limit 8 task u priority 9 uses q waits e,f auto n"
             + " task v priority 3 whole auto m,n limit 3 task w priority 63 uses s"
